@@ -1,0 +1,127 @@
+import java.io.IOException;
+import java.lang.reflect.Field;
+import java.lang.reflect.Method;
+import java.lang.reflect.Modifier;
+import java.nio.file.Files;
+import java.nio.file.Path;
+import java.util.Arrays;
+import java.util.List;
+import java.util.TreeSet;
+import java.util.regex.Matcher;
+import java.util.regex.Pattern;
+
+/** The face of the document, and those rules of LANGUAGE.md that can be read off the class or its text. */
+public final class LanguageTest {
+    private static final List<String> FACE = List.of("int type(int)", "int clear()", "int house()",
+            "int room(int,int)", "int flock(int,int)", "int now(int)", "int step()", "int drives(int,int)",
+            "int puts(int)", "int calls(int)", "int dawn()", "int undo()", "int back(int)", "int homing()",
+            "int apart(int)", "int odds(int,int,int)", "int tells(int,int)", "int forget()", "int can(int)",
+            "int ask()", "int rate(int,int)", "int keep(int)", "int again(int)", "int count(int)", "long trace()");
+    private static final List<String> FORBIDDEN = List.of("throw", "throws", "try", "catch", "finally",
+            "synchronized", "assert", "protected", "native", "volatile", "transient", "strictfp", "lambda",
+            "equals", "hashCode", "toString", "Object", "System", "Random", "Thread", "Exception", "while");
+    private static int wrong = 0;
+
+    public static void main(String[] args) throws IOException {
+        String source = Files.readString(Path.of(args[0]));
+        face();
+        insideClasses();
+        words(source);
+        methodLengths(source);
+        System.out.println("LanguageTest: " + wrong + " faults");
+        if (wrong != 0) {
+            System.exit(1);
+        }
+    }
+
+    private static void hold(boolean fine, String rule) {
+        if (!fine) {
+            wrong++;
+            System.out.println("LanguageTest: " + rule);
+        }
+    }
+
+    private static void face() {
+        TreeSet<String> found = new TreeSet<>();
+        TreeSet<String> names = new TreeSet<>();
+        for (Method method : PlushFlocks.class.getDeclaredMethods()) {
+            if (!Modifier.isPrivate(method.getModifiers())) {
+                StringBuilder parameters = new StringBuilder();
+                for (Class<?> parameter : method.getParameterTypes()) {
+                    parameters.append(parameters.length() == 0 ? "" : ",").append(parameter.getName());
+                }
+                found.add(method.getReturnType().getName() + " " + method.getName() + "(" + parameters + ")");
+                names.add(method.getName());
+            }
+        }
+        hold(found.equals(new TreeSet<>(FACE)), "the face is " + found);
+        for (Class<?> inside : PlushFlocks.class.getDeclaredClasses()) {
+            for (Method method : inside.getDeclaredMethods()) {
+                hold(!names.contains(method.getName()), inside + " has a public one's name: " + method.getName());
+            }
+        }
+        for (Method method : PlushFlocks.class.getDeclaredMethods()) {
+            hold(!Modifier.isPrivate(method.getModifiers()) || !names.contains(method.getName()),
+                    "a private one has a public one's name: " + method.getName());
+        }
+        TreeSet<String> constants = new TreeSet<>();
+        for (Field field : PlushFlocks.class.getDeclaredFields()) {
+            if (!Modifier.isPrivate(field.getModifiers())) {
+                constants.add(field.getName());
+            }
+        }
+        hold(constants.equals(new TreeSet<>(List.of("BAD", "STATE", "FULL", "NONE", "NO"))), "constants " + constants);
+        hold(PlushFlocks.BAD == -1 && PlushFlocks.STATE == -2 && PlushFlocks.FULL == -3 && PlushFlocks.NONE == -9
+                && PlushFlocks.NO == -1000000, "what the constants are");
+        hold(Modifier.isFinal(PlushFlocks.class.getModifiers()), "the class is final");
+        hold(PlushFlocks.class.getConstructors().length == 1, "one constructor");
+    }
+
+    private static void insideClasses() {
+        Class<?>[] inside = PlushFlocks.class.getDeclaredClasses();
+        hold(inside.length <= 11, "twelve classes");
+        for (Class<?> one : inside) {
+            hold(Modifier.isStatic(one.getModifiers()) || one.isEnum(), one + " is static");
+            hold(one.getDeclaredFields().length <= 20, one + " has some twenty fields");
+        }
+        for (Field field : PlushFlocks.class.getDeclaredFields()) {
+            hold(!Modifier.isStatic(field.getModifiers()) || Modifier.isFinal(field.getModifiers()),
+                    field.getName() + " is final");
+        }
+        long fields = Arrays.stream(PlushFlocks.class.getDeclaredFields())
+                .filter(field -> !Modifier.isStatic(field.getModifiers())).count();
+        hold(fields <= 20, "some twenty fields");
+    }
+
+    private static void words(String source) {
+        String code = source.replaceAll("(?s)/\\*.*?\\*/", " ").replaceAll("//[^\n]*", " ");
+        for (String word : FORBIDDEN) {
+            hold(!Pattern.compile("\\b" + word + "\\b").matcher(code).find(), "no " + word);
+        }
+        hold(!code.contains("->") && !code.contains("::"), "no lambda, no method reference");
+        Matcher imports = Pattern.compile("\\bimport ([^;]*);").matcher(code);
+        while (imports.find()) {
+            hold(imports.group(1).equals("java.util.Arrays"), "import " + imports.group(1));
+        }
+        Matcher arrays = Pattern.compile("\\b(Arrays|Integer|Long|Math)\\.(\\w+)").matcher(code);
+        while (arrays.find()) {
+            hold(List.of("fill", "bitCount", "min", "max").contains(arrays.group(2)), "call of " + arrays.group());
+        }
+        for (char sign : source.toCharArray()) {
+            hold(sign < 128, "signs are 1 to 127");
+        }
+    }
+
+    private static void methodLengths(String source) {
+        int start = 0;
+        String[] lines = source.split("\n");
+        for (int i = 0; i < lines.length; i++) {
+            if (lines[i].matches("( {4}| {8})[a-zA-Z].*\\) \\{") && !lines[i].matches(" *(for|if|switch|while).*")) {
+                start = i;
+            } else if (lines[i].matches("( {4}| {8})\\}")) {
+                hold(i - start < 60 || start == 0, "a method of " + (i - start) + " lines: " + lines[start]);
+                start = 0;
+            }
+        }
+    }
+}
