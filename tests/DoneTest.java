@@ -85,6 +85,9 @@ public final class DoneTest {
         dog.puts(1);
         dog.step();
         due.is("not to the dog", dog.flock(0, 3), 2);
+        PlushFlocks last = due.told("r1 0;r1 0;r1 1;d0 1;d0 2;f0 2 0;", 6);
+        last.step();
+        due.is("1 is above 0", last.flock(0, 3), 2);
         PlushFlocks bare = due.told("r1 0;r1 0;r1 5;d0 1;d1 2;f0 2 0;", 6);
         due.is("step()", bare.step(), 0);
         due.is("no carpet beyond, it stays", bare.flock(0, 3), 0);

@@ -21,6 +21,7 @@ public final class GrazedTest {
     }
 
     private static void can(PlushFlocks x, int ways, int inAll, int inSome, int asked) {
+        due.is("ask()", x.ask(), asked);
         due.is("can(0)", x.can(0), ways);
         due.is("can(1)", x.can(1), inAll);
         due.is("can(2)", x.can(2), inSome);

@@ -10,7 +10,7 @@ public final class HomeTest {
         backNone();
         backLong();
         homingFewest();
-        homingLeastBits();
+        homingMany();
         homingNone();
         apartFewest();
         apartFirst();
@@ -137,7 +137,7 @@ public final class HomeTest {
         due.is("it would go to 1, a dog there", two.homing(), 2);
     }
 
-    private static void homingLeastBits() {
+    private static void homingMany() {
         PlushFlocks x = due.told("r1 9;r2 9;r2 9;d0 1;d1 2;d0 2;f2 1 0;", 7);
         x.drives(0, 1);
         due.is("from 1 it flees to 0, but for a dog", x.homing(), 3);
@@ -145,8 +145,10 @@ public final class HomeTest {
         due.is("the bare one would go: a dog in 0", either.homing(), 1);
         PlushFlocks few = due.told("r1 3;r1 3;r2 0;d0 2;d1 2;f2 1 0;", 6);
         due.is("dogs in both", few.homing(), 3);
-        PlushFlocks same = due.told("r1 0;r1 3;r1 0;r1 0;d0 1;d0 2;d2 3;f0 1 0;f2 1 0;", 9);
-        due.is("one of 1", same.homing(), 2);
+        PlushFlocks four = due.told("r3 9;r2 0;r1 0;r2 9;d1 3;d0 3;d1 2;f1 3 0;f3 8 0;", 9);
+        due.is("each dog wants the next", four.homing(), 15);
+        PlushFlocks five = due.told("r2 0;r3 0;r1 0;r2 0;r3 4;d1 4;d4 0;d2 0;d4 3;f0 8 0;f4 9 0;", 11);
+        due.is("dogs in all", five.homing(), 31);
     }
 
     private static void homingNone() {
@@ -173,6 +175,7 @@ public final class HomeTest {
         apart(due.told("r1 0;r2 0;f0 1 0;f0 1 0;", 4), 1, 1, 1);
         apart(due.told("r1 0;r2 0;r3 0;f0 1 0;f0 1 1;f0 1 0;f0 1 1;f0 1 1;", 8), 2, 1, 2, 1, 2, 2);
         apart(due.told("r1 0;r1 0;r1 0;f0 1 0;f0 1 1;f0 1 2;", 6), 3, 0, 1, 2);
+        apart(due.told("r1 0;r1 0;r1 0;r1 0;r1 0;f0 1 0;f0 1 0;f0 1 0;f0 1 1;f0 1 0;", 10), 5, 0, 1, 2, 3, 4);
         apart(due.told("r2 0;r3 0;r4 0;f0 1 2;f0 1 2;f0 1 2;f0 1 2;", 7), 1, 2, 2, 2, 2);
     }
 

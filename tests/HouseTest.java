@@ -109,6 +109,19 @@ public final class HouseTest {
         due.is("undo()", x.undo(), PlushFlocks.STATE);
         due.is("images are gone", x.again(0), PlushFlocks.STATE);
         due.is("the trace goes on", x.trace(), 1);
+        due.tell(x, "r3 9;r3 9;f0 3 0;f1 5 0;n4;", 5);
+        x.step();
+        x.puts(1);
+        x.dawn();
+        x.puts(0);
+        due.tell(x, "r3 9;r3 9;f0 3 0;f1 5 0;", 4);
+        for (int f = 0; f < 2; f++) {
+            due.is("nothing is eaten", x.flock(f, 4), 0);
+            due.is("no lambs", x.flock(f, 5), 0);
+        }
+        due.is("no dogs", x.now(2), 0);
+        due.is("night", x.now(0), 0);
+        due.is("full is as at first", x.count(2), 20);
         due.is("an empty text tells an empty house", x.house(), 0);
         due.is("no rooms", x.count(0), 0);
     }
@@ -240,9 +253,10 @@ public final class HouseTest {
         due.is("nothing to undo", x.now(5), 0);
         PlushFlocks slow = due.told("r2 60;f0 1 0;", 2);
         due.is("60 steps", slow.room(0, 5), 60);
-        PlushFlocks far = due.told("r2 60;r1 1;d0 1;f1 1 0;", 4);
-        due.is("62 steps are too many", far.room(0, 5), PlushFlocks.NONE);
-        due.is("1 step", far.room(1, 5), 1);
+        PlushFlocks near = due.told("r2 59;r1 0;d0 1;f1 1 0;", 4);
+        due.is("60 steps, one of them into it", near.room(0, 5), 60);
+        PlushFlocks far = due.told("r2 60;r1 0;d0 1;f1 1 0;", 4);
+        due.is("61 steps are too many", far.room(0, 5), PlushFlocks.NONE);
         PlushFlocks alone = due.told("r2 5;r1 1;f1 1 0;", 3);
         due.is("nobody comes", alone.room(0, 5), PlushFlocks.NONE);
         alone.puts(1);
@@ -274,6 +288,9 @@ public final class HouseTest {
     private static void nowAsked() {
         PlushFlocks x = due.told("r2 20;r2 5;r1 0;d0 1;d1 2;f0 4 1;f0 2 1;f2 3 0;n3;", 9);
         due.is("carpet", x.now(3), 25);
+        x.drives(0, 1);
+        due.is("strays", x.now(1), 1);
+        x.undo();
         x.drives(1, 1);
         x.puts(2);
         due.is("strays", x.now(1), 2);

@@ -495,6 +495,11 @@ public final class PlushFlocks {
             flocks++;
         }
 
+        void tellLambAt(int full) {
+            lambAt = full;
+            lambAtTold = true;
+        }
+
         int flocksIn(int places, int r) {
             int set = 0;
             for (int f = 0; f < flocks; f++) {
@@ -800,7 +805,7 @@ public final class PlushFlocks {
                 case 'r': plan.addRoom(one, two); break;
                 case 'd': plan.addDoor(one, two); break;
                 case 'f': plan.addFlock(one, two, three); break;
-                default: plan.lambAt = one; plan.lambAtTold = true; break;
+                default: plan.tellLambAt(one); break;
             }
             items++;
             item = ' ';
