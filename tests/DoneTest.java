@@ -5,17 +5,13 @@ public final class DoneTest {
     public static void main(String[] args) {
         stepEats();
         stepBearsLambs();
-        lambsAtMost();
         stepGoes();
         stepFlees();
         stepOneBehindAnother();
         drivesDone();
-        drivesRefused();
         dogsPutAndCalled();
         dawns();
         undone();
-        undoneTenAtMost();
-        refusedIsNotUndone();
         due.end();
     }
 
@@ -53,26 +49,6 @@ public final class DoneTest {
                 late.dawn();
             }
             late.step();
-        }
-    }
-
-    private static void lambsAtMost() {
-        PlushFlocks x = due.told("r1 60;f0 7 0;n1;", 3);
-        int eaten = 0;
-        for (int i = 0; i < 30; i++) {
-            eaten += x.step();
-            x.dawn();
-            due.is("lambs", x.flock(0, 5), Math.min(99, eaten));
-            due.is("eaten", x.flock(0, 4), 0);
-        }
-        due.is("lambs at most", x.now(4), 99);
-        PlushFlocks two = due.told("r1 60;f0 9 0;n2;", 3);
-        int all = 0;
-        for (int i = 0; i < 60; i++) {
-            all += two.step();
-            two.dawn();
-            due.is("lambs by two", two.flock(0, 5), Math.min(99, all / 2));
-            due.is("eaten is full less beyond 99, too", two.flock(0, 4), all % 2);
         }
     }
 
@@ -141,24 +117,6 @@ public final class DoneTest {
         due.is("it eats nothing", x.flock(1, 4), 0);
         due.is("dogs stay", x.now(2), 4);
         due.is("carpets stay", x.now(3), 9);
-    }
-
-    private static void drivesRefused() {
-        PlushFlocks x = due.told("r2 9;r1 0;r2 0;d0 1;d1 2;f0 2 0;f1 3 0;f1 3 0;", 8);
-        due.is("it is there", x.drives(0, 0), PlushFlocks.STATE);
-        due.is("no door", x.drives(0, 2), PlushFlocks.STATE);
-        due.is("holds more than it holds", x.drives(0, 1), PlushFlocks.STATE);
-        due.is("drives(1, 2)", x.drives(1, 2), 1);
-        due.is("holds as many as it holds", x.drives(0, 1), PlushFlocks.STATE);
-        due.is("drives(2, 2)", x.drives(2, 2), 1);
-        x.puts(1);
-        due.is("a dog", x.drives(0, 1), PlushFlocks.STATE);
-        due.is("drives(3, 0)", x.drives(3, 0), PlushFlocks.BAD);
-        due.is("drives(-1, 0)", x.drives(-1, 0), PlushFlocks.BAD);
-        due.is("drives(0, 3)", x.drives(0, 3), PlushFlocks.BAD);
-        due.is("drives(0, -1)", x.drives(0, -1), PlushFlocks.BAD);
-        due.is("drives(min, min)", x.drives(Integer.MIN_VALUE, Integer.MIN_VALUE), PlushFlocks.BAD);
-        due.is("drives(0, 33)", x.drives(0, 33), PlushFlocks.BAD);
     }
 
     private static void dogsPutAndCalled() {
@@ -232,35 +190,5 @@ public final class DoneTest {
         x.undo();
         due.is("the trace goes on", x.trace(), 1);
         due.is("told stays", x.count(3), 1);
-    }
-
-    private static void undoneTenAtMost() {
-        PlushFlocks x = new PlushFlocks();
-        for (int i = 1; i <= 23; i++) {
-            x.dawn();
-            due.is("undoable", x.now(5), Math.min(10, i));
-        }
-        for (int i = 9; i >= 0; i--) {
-            due.is("undo()", x.undo(), i);
-            due.is("night", x.now(0), 13 + i);
-        }
-        due.is("undo()", x.undo(), PlushFlocks.STATE);
-        due.is("night", x.now(0), 13);
-        x.dawn();
-        due.is("undo()", x.undo(), 0);
-        due.is("night", x.now(0), 13);
-    }
-
-    private static void refusedIsNotUndone() {
-        PlushFlocks x = due.told("r2 9;r2 3;f0 5 0;", 3);
-        x.puts(0);
-        x.puts(0);
-        x.puts(7);
-        x.calls(1);
-        x.drives(0, 1);
-        x.drives(5, 1);
-        due.is("undoable", x.now(5), 1);
-        due.is("undo()", x.undo(), 0);
-        due.is("dogs", x.now(2), 0);
     }
 }

@@ -4,7 +4,6 @@ public final class GrazedTest {
 
     public static void main(String[] args) {
         tellsAndForgets();
-        tellsRefused();
         canOfNothingTold();
         canOfWhatIsTold();
         canNone();
@@ -42,23 +41,6 @@ public final class GrazedTest {
         due.is("told", x.count(3), 0);
         due.is("tells(1, 0)", x.tells(1, 0), 1);
         can(x, 16, 0, 30, 1);
-    }
-
-    private static void tellsRefused() {
-        PlushFlocks x = flocks("12");
-        due.is("tells(0, 0)", x.tells(0, 0), PlushFlocks.BAD);
-        due.is("tells(4, 0)", x.tells(4, 0), PlushFlocks.BAD);
-        due.is("tells(5, 0)", x.tells(5, 0), PlushFlocks.BAD);
-        due.is("tells(-1, 0)", x.tells(-1, 0), PlushFlocks.BAD);
-        due.is("tells(min, 0)", x.tells(Integer.MIN_VALUE, 0), PlushFlocks.BAD);
-        due.is("tells(max, 0)", x.tells(Integer.MAX_VALUE, 0), PlushFlocks.BAD);
-        due.is("tells(1, -1)", x.tells(1, -1), PlushFlocks.BAD);
-        due.is("tells(1, 46)", x.tells(1, 46), PlushFlocks.BAD);
-        due.is("tells(1, min)", x.tells(1, Integer.MIN_VALUE), PlushFlocks.BAD);
-        due.is("told", x.count(3), 0);
-        due.is("can(3)", x.can(3), PlushFlocks.BAD);
-        due.is("can(-1)", x.can(-1), PlushFlocks.BAD);
-        due.is("tells(3, 45)", x.tells(3, 45), 1);
     }
 
     private static void canOfNothingTold() {

@@ -3,7 +3,6 @@ public final class HomeTest {
     private static final Due due = new Due("HomeTest");
 
     public static void main(String[] args) {
-        backAtHome();
         backByTheFewest();
         backRoundAbout();
         backFirstIsLowest();
@@ -16,21 +15,12 @@ public final class HomeTest {
         apartFirst();
         apartNone();
         oddsTold();
-        oddsEdges();
         due.end();
     }
 
     private static void back(PlushFlocks x, int fewest, int first) {
         due.is("back(0)", x.back(0), fewest);
         due.is("back(1)", x.back(1), first);
-    }
-
-    private static void backAtHome() {
-        PlushFlocks x = due.told("r1 9;r1 9;d0 1;f0 1 0;f1 1 0;", 5);
-        back(x, 0, PlushFlocks.NONE);
-        due.is("back(2)", x.back(2), PlushFlocks.BAD);
-        due.is("back(-1)", x.back(-1), PlushFlocks.BAD);
-        back(new PlushFlocks(), 0, PlushFlocks.NONE);
     }
 
     private static void backByTheFewest() {
@@ -215,20 +205,5 @@ public final class HomeTest {
         odds(two, 2, 0, 16, 25);
         odds(two, 2, 1, 24, 25);
         odds(two, 2, 2, 1, 1);
-    }
-
-    private static void oddsEdges() {
-        PlushFlocks x = due.told("r5 0;f0 1 0;f0 1 0;f0 1 0;", 4);
-        odds(x, 0, 0, 1, 1);
-        odds(x, 10, 2, 0, 1);
-        odds(x, 10, 3, 1, 1);
-        odds(x, 10, 5, 1, 1);
-        odds(new PlushFlocks(), 10, 0, 1, 1);
-        due.is("odds(-1, 0, 0)", x.odds(-1, 0, 0), PlushFlocks.BAD);
-        due.is("odds(11, 0, 0)", x.odds(11, 0, 0), PlushFlocks.BAD);
-        due.is("odds(0, -1, 0)", x.odds(0, -1, 0), PlushFlocks.BAD);
-        due.is("odds(0, 6, 0)", x.odds(0, 6, 0), PlushFlocks.BAD);
-        due.is("odds(0, 0, -1)", x.odds(0, 0, -1), PlushFlocks.BAD);
-        due.is("odds(0, 0, 2)", x.odds(0, 0, 2), PlushFlocks.BAD);
     }
 }

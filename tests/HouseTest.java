@@ -1,64 +1,15 @@
-/** Promises 1 to 7: a new object, type, clear, house, room, flock, now. */
+/** Promises 2 to 7 by ordinary houses: type, clear, house, room, flock, now. */
 public final class HouseTest {
     private static final Due due = new Due("HouseTest");
 
     public static void main(String[] args) {
-        newObject();
-        typeAndClear();
         houseTold();
-        houseToldAnew();
-        faultsOfRooms();
-        faultsOfDoors();
-        faultsOfFlocks();
-        faultsOfFull();
-        faultsOfTokens();
         faultChangesNothing();
         roomAsked();
         roomBare();
         flockAsked();
         nowAsked();
         due.end();
-    }
-
-    private static void newObject() {
-        PlushFlocks x = new PlushFlocks();
-        due.is("rooms", x.count(0), 0);
-        due.is("flocks", x.count(1), 0);
-        due.is("full", x.count(2), 20);
-        due.is("told", x.count(3), 0);
-        due.is("letters", x.count(4), 0);
-        for (int what = 0; what < 6; what++) {
-            due.is("now(" + what + ")", x.now(what), 0);
-            due.is("room(0, " + what + ")", x.room(0, what), PlushFlocks.BAD);
-            due.is("flock(0, " + what + ")", x.flock(0, what), PlushFlocks.BAD);
-        }
-        due.is("trace()", x.trace(), 0);
-        due.is("again(0)", x.again(0), PlushFlocks.STATE);
-        due.is("undo()", x.undo(), PlushFlocks.STATE);
-        due.is("tells(1, 0)", x.tells(1, 0), PlushFlocks.BAD);
-        due.is("back(0)", x.back(0), 0);
-        due.is("homing()", x.homing(), 0);
-    }
-
-    private static void typeAndClear() {
-        PlushFlocks x = new PlushFlocks();
-        due.is("clear() of nothing", x.clear(), 0);
-        due.is("type(0)", x.type(0), 1);
-        due.is("type(255)", x.type(255), 2);
-        due.is("type(256)", x.type(256), PlushFlocks.BAD);
-        due.is("type(-1)", x.type(-1), PlushFlocks.BAD);
-        due.is("type(max)", x.type(Integer.MAX_VALUE), PlushFlocks.BAD);
-        due.is("type(min)", x.type(Integer.MIN_VALUE), PlushFlocks.BAD);
-        due.is("letters", x.count(4), 2);
-        due.is("clear()", x.clear(), 2);
-        due.is("clear() again", x.clear(), 0);
-        due.type(x, " ".repeat(120));
-        due.is("the 121st letter", x.type(32), PlushFlocks.FULL);
-        due.is("a bad 121st letter", x.type(256), PlushFlocks.BAD);
-        due.is("letters", x.count(4), 120);
-        due.is("house() of blanks", x.house(), 0);
-        due.is("letters are gone", x.count(4), 0);
-        due.is("type() behind house()", x.type(59), 1);
     }
 
     private static void houseTold() {
@@ -79,7 +30,7 @@ public final class HouseTest {
         due.is("stuff 0", x.flock(0, 2), 2);
         due.told("  r  1  2  ;  n  7  ;  f  0  3  1  ;  ", 3);
         due.told("n1;r1 9;f0 1 0;r2 8;d1 0;f1 2 1;", 6);
-        PlushFlocks blanks = due.told("r1 99".substring(0, 4) + ";   ", 1);
+        PlushFlocks blanks = due.told("r1 9;   ", 1);
         due.is("carpet 9", blanks.room(0, 1), 9);
         PlushFlocks most = due.told("r5 9;r5 9;r5 9;r5 9;r5 9;f0 1 0;f1 1 0;f2 1 0;f3 1 0;f4 1 0;", 10);
         due.is("five flocks", most.now(1), 0);
@@ -87,130 +38,14 @@ public final class HouseTest {
         due.is("holds does not matter at first", crowded.room(0, 3), 7);
     }
 
-    private static void houseToldAnew() {
-        PlushFlocks x = due.told("r2 9;r2 3;d0 1;f0 2 0;n5;", 5);
-        x.step();
-        x.dawn();
-        x.puts(1);
-        x.drives(0, 1);
-        x.keep(0);
-        x.tells(1, 2);
-        x.rate(0, 0);
-        due.tell(x, "r3 4;", 1);
-        due.is("rooms", x.count(0), 1);
-        due.is("flocks", x.count(1), 0);
-        due.is("full is as at first", x.count(2), 20);
-        due.is("nothing told", x.count(3), 0);
-        due.is("night", x.now(0), 0);
-        due.is("dogs", x.now(2), 0);
-        due.is("carpet", x.now(3), 4);
-        due.is("lambs", x.now(4), 0);
-        due.is("nothing to undo", x.now(5), 0);
-        due.is("undo()", x.undo(), PlushFlocks.STATE);
-        due.is("images are gone", x.again(0), PlushFlocks.STATE);
-        due.is("the trace goes on", x.trace(), 1);
-        due.tell(x, "r3 9;r3 9;f0 3 0;f1 5 0;n4;", 5);
-        x.step();
-        x.puts(1);
-        x.dawn();
-        x.puts(0);
-        due.tell(x, "r3 9;r3 9;f0 3 0;f1 5 0;", 4);
-        for (int f = 0; f < 2; f++) {
-            due.is("nothing is eaten", x.flock(f, 4), 0);
-            due.is("no lambs", x.flock(f, 5), 0);
-        }
-        due.is("no dogs", x.now(2), 0);
-        due.is("night", x.now(0), 0);
-        due.is("full is as at first", x.count(2), 20);
-        due.is("an empty text tells an empty house", x.house(), 0);
-        due.is("no rooms", x.count(0), 0);
-    }
-
-    private static void faultsOfRooms() {
-        PlushFlocks x = new PlushFlocks();
-        due.fault(x, "r0 1;", 1);
-        due.fault(x, "r6 1;", 1);
-        due.fault(x, "r1 61;", 3);
-        due.fault(x, "r1;", 2);
-        due.fault(x, "r;", 1);
-        due.fault(x, "r1 2 3;", 5);
-        due.fault(x, "r1 1;r1 1;r1 1;r1 1;r1 1; r", 26);
-        due.fault(x, "rr", 1);
-        due.fault(x, "r", 1);
-        due.fault(x, "r  ", 3);
-        due.fault(x, "r1 2", 4);
-        due.fault(x, "r1 2;r1 2  ", 11);
-    }
-
-    private static void faultsOfDoors() {
-        PlushFlocks x = new PlushFlocks();
-        due.fault(x, "d0 1;", 1);
-        due.fault(x, "r1 1;d0 0;", 8);
-        due.fault(x, "r1 1;d0 1;r1 1;", 8);
-        due.fault(x, "r1 1;r1 1;d2 0;", 11);
-        due.fault(x, "r1 1;r1 1;d0 2;", 13);
-        due.fault(x, "r1 1;r1 1;d0 1 0;", 15);
-        due.fault(x, "r1 1;r1 1;d0;", 12);
-        due.fault(x, "d", 1);
-        due.fault(x, "d;", 1);
-    }
-
-    private static void faultsOfFlocks() {
-        PlushFlocks x = new PlushFlocks();
-        due.fault(x, "f0 1 0;", 1);
-        due.fault(x, "r1 1;f1 1 0;", 6);
-        due.fault(x, "r1 1;f0 0 0;", 8);
-        due.fault(x, "r1 1;f0 10 0;", 8);
-        due.fault(x, "r1 1;f0 1 3;", 10);
-        due.fault(x, "r1 1;f0 1;", 9);
-        due.fault(x, "r1 1;f0 1 0 0;", 12);
-        due.fault(x, "r1 1;f0 1 0;f0 1 0;f0 1 0;f0 1 0;f0 1 0;f0 1 0;", 40);
-        due.fault(x, "r1 1;f0 1 0", 11);
-    }
-
-    private static void faultsOfFull() {
-        PlushFlocks x = new PlushFlocks();
-        due.fault(x, "n0;", 1);
-        due.fault(x, "n100;", 1);
-        due.fault(x, "n;", 1);
-        due.fault(x, "n5 5;", 3);
-        due.fault(x, "n5;n5;", 3);
-        due.fault(x, "n5; r1 1; n", 10);
-        due.tell(x, "n99;", 1);
-        due.is("full", x.count(2), 99);
-        due.tell(x, "n1;", 1);
-        due.is("full", x.count(2), 1);
-    }
-
-    private static void faultsOfTokens() {
-        PlushFlocks x = new PlushFlocks();
-        due.fault(x, ";", 0);
-        due.fault(x, "  ;", 2);
-        due.fault(x, "r1 1;;", 5);
-        due.fault(x, "7", 0);
-        due.fault(x, "x", 0);
-        due.fault(x, "R1 1;", 0);
-        due.fault(x, "r1\t1;", 2);
-        due.fault(x, "r1,1;", 2);
-        due.fault(x, "r-1 1;", 1);
-        due.fault(x, "r01 1;", 1);
-        due.fault(x, "r1 00;", 3);
-        due.fault(x, "r1 09;", 3);
-        due.fault(x, "r1 100;", 3);
-        due.fault(x, "r1 4294967297;", 3);
-        due.fault(x, "r11;", 1);
-        due.fault(x, "r1 1;\u0000", 5);
-        due.fault(x, "r1 1;\u00ff", 5);
-        due.fault(x, "r1 1x", 4);
-        due.fault(x, "r1 1d0", 4);
-    }
-
     private static void faultChangesNothing() {
         PlushFlocks x = due.told("r2 9;r2 3;d0 1;f0 2 0;n5;", 5);
         x.step();
         x.keep(1);
         x.tells(1, 2);
-        due.fault(x, "r1 1;n7;f0 1 0;r1 1;d0 0;", 23);
+        due.type(x, "r1 1;n7;f0 1 0;r1 1;d0 0;");
+        due.is("house()", x.house(), -10 - 23);
+        due.is("the text stays", x.clear(), 25);
         due.is("rooms", x.count(0), 2);
         due.is("full", x.count(2), 5);
         due.is("told", x.count(3), 1);

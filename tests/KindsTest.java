@@ -4,11 +4,9 @@ public final class KindsTest {
 
     public static void main(String[] args) {
         rates();
-        ratesRefused();
         ratesBelowNothing();
         imagesKept();
         imagesKeepAll();
-        imagesRefused();
         counts();
         due.end();
     }
@@ -35,16 +33,6 @@ public final class KindsTest {
         rate(x, 1, 0, 4 + 26, 11);
         rate(x, 4, 2, 2 - 1 + 2, 10101);
         due.is("trace()", x.trace(), 1 + 11 + 101 + 1011 + 10101 + 100001 + 11 + 10101);
-    }
-
-    private static void ratesRefused() {
-        PlushFlocks x = due.told("r1 0;f0 4 0;", 2);
-        rate(x, 6, 0, PlushFlocks.NO, 0);
-        rate(x, -1, 0, PlushFlocks.NO, 0);
-        rate(x, 0, 1, PlushFlocks.NO, 0);
-        rate(x, 0, -1, PlushFlocks.NO, 0);
-        rate(x, Integer.MIN_VALUE, Integer.MAX_VALUE, PlushFlocks.NO, 0);
-        rate(new PlushFlocks(), 0, 0, PlushFlocks.NO, 0);
     }
 
     private static void ratesBelowNothing() {
@@ -110,22 +98,6 @@ public final class KindsTest {
         due.is("carpet 0", x.room(0, 1), 13);
         due.is("carpet 1", x.room(1, 1), 0);
         due.is("told is as it is", x.count(3), 2);
-    }
-
-    private static void imagesRefused() {
-        PlushFlocks x = due.told("r2 20;", 1);
-        x.dawn();
-        due.is("again(0)", x.again(0), PlushFlocks.STATE);
-        due.is("again(1)", x.again(1), PlushFlocks.STATE);
-        due.is("undoable", x.now(5), 1);
-        for (int bad : new int[] {-1, 2, 32, 33, Integer.MIN_VALUE, Integer.MAX_VALUE}) {
-            due.is("keep(" + bad + ")", x.keep(bad), PlushFlocks.BAD);
-            due.is("again(" + bad + ")", x.again(bad), PlushFlocks.BAD);
-        }
-        due.is("keep(1)", x.keep(1), 1);
-        due.is("undoable behind keep()", x.now(5), 1);
-        due.is("again(0)", x.again(0), PlushFlocks.STATE);
-        due.is("again(1)", x.again(1), 1);
     }
 
     private static void counts() {
