@@ -92,7 +92,8 @@ public final class DoneEdgesTest {
     }
 
     private static void eats(int hunger, int full, int steps, int eaten, int lambs) {
-        PlushFlocks x = due.told("r1 60;f0 " + hunger + " 0;" + (full == 20 ? "" : "n" + full + ";"), full == 20 ? 2 : 3);
+        String house = "r1 60;f0 " + hunger + " 0;";
+        PlushFlocks x = full == 20 ? due.told(house, 2) : due.told(house + "n" + full + ";", 3);
         for (int i = 0; i < steps; i++) {
             x.step();
         }
@@ -311,6 +312,12 @@ public final class DoneEdgesTest {
         PlushFlocks x = due.told("r1 0;r1 0;r1 1;d0 1;d0 2;f0 1 0;", 6);
         x.step();
         due.is("1 is carpet, 0 is none", x.flock(0, 3), 2);
+        for (int r = 0; r < 5; r++) {
+            int other = (r + 1) % 5;
+            PlushFlocks bare = due.told(FIVE_ROOMS + "d" + r + " " + other + ";f" + other + " 1 0;", 7);
+            bare.step();
+            due.is("it does not go into bare " + r, bare.flock(0, 3), other);
+        }
         PlushFlocks none = due.told("r1 0;r1 0;r1 9;d0 1;d1 2;f0 1 0;", 6);
         none.step();
         due.is("it does not go further for it", none.flock(0, 3), 0);

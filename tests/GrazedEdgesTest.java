@@ -72,8 +72,11 @@ public final class GrazedEdgesTest {
         due.is("tells(1, 46)", x.tells(1, 46), BAD);
         due.refusesFar("tells", n -> x.tells(1, n), BAD);
         due.is("both bad", x.tells(0, 46), BAD);
-        due.is("tells(1, 0)", x.tells(1, 0), 1);
-        due.is("tells(1, 45)", x.tells(1, 45), 2);
+        due.is("told", x.count(3), 0);
+        for (int n = 0; n <= 45; n++) {
+            due.is("tells(1, " + n + ")", flocks("1").tells(1, n), 1);
+            due.is("tells(31, " + n + ")", flocks("99999").tells(31, n), 1);
+        }
     }
 
     private static void toldAre6AtMost() {

@@ -14,6 +14,7 @@ public final class HomeEdgesTest {
         backAsksForRoom();
         backIsTheFewest();
         backOfManyDrives();
+        backOfTheFarthestWay();
         firstIsTheLowestFlock();
         firstIsTheLowestRoom();
         firstIsOneByWhichItCanBe();
@@ -167,10 +168,12 @@ public final class HomeEdgesTest {
         }
     }
 
-    /** Found by a search: in no house with 1 or 2 HOLDS does a way take longer than this one. */
+    /** The longest way that a search among houses of 1 and 2 HOLDS came upon. */
     private static void backOfManyDrives() {
         due.sentence("BACK: the fewest DRIVES (many)");
-        PlushFlocks x = due.told("r2 0;r2 0;r1 0;r1 0;r1 0;d0 3;d1 2;d2 3;d2 4;d3 4;f4 1 0;f3 1 0;f2 1 0;f0 1 0;f0 1 0;", 15);
+        String doors = "d0 3;d1 2;d2 3;d2 4;d3 4;";
+        String flocks = "f4 1 0;f3 1 0;f2 1 0;f0 1 0;f0 1 0;";
+        PlushFlocks x = due.told("r2 0;r2 0;r1 0;r1 0;r1 0;" + doors + flocks, 15);
         int[] drives = {21, 2, 1, 12, 33, 34, 13, 10, 22, 23, 32, 24, 31, 43, 42, 23, 20, 43, 2, 4, 42, 13, 41, 12, 23};
         for (int i = 0; i < drives.length; i++) {
             due.is("back(0)", x.back(0), i);
@@ -182,6 +185,20 @@ public final class HomeEdgesTest {
             x.drives(first / 10, first % 10);
         }
         back(x, 0, NONE);
+    }
+
+    /** Of the 3125 ways in which five flocks can be in five rooms one alone is as far away as this. */
+    private static void backOfTheFarthestWay() {
+        due.sentence("BACK: the fewest DRIVES (home is the farthest of all ways)");
+        PlushFlocks x = due.told(FIVE_ROOMS + "d0 1;d1 2;d2 3;d3 4;" + "f0 1 0;".repeat(5), 14);
+        for (int f = 0; f < 5; f++) {
+            for (int r = 1; r < 5; r++) {
+                x.drives(f, r);
+            }
+        }
+        back(x, 20, 3);
+        x.puts(0);
+        back(x, NONE, NONE);
     }
 
     private static void firstIsTheLowestFlock() {

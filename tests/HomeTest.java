@@ -90,7 +90,7 @@ public final class HomeTest {
         back(swapped, PlushFlocks.NONE, PlushFlocks.NONE);
     }
 
-    /** Four flocks pass one another in a row with one free room and one side room. */
+    /** Flocks pass one another in a row with one free room and one side room. */
     private static void backLong() {
         PlushFlocks x = due.told("r1 0;r1 0;r1 0;r1 0;r1 0;d0 1;d1 2;d2 3;d1 4;f0 1 0;f2 1 0;f3 1 0;", 12);
         x.drives(1, 1);
@@ -100,13 +100,6 @@ public final class HomeTest {
         x.drives(1, 1);
         x.drives(1, 0);
         back(x, 6, 1);
-        PlushFlocks most = due.told("r5 0;r5 0;r5 0;r5 0;r5 0;d0 1;d1 2;d2 3;d3 4;f0 1 0;f0 1 0;f0 1 0;f0 1 0;f0 1 0;", 14);
-        for (int f = 0; f < 5; f++) {
-            for (int r = 1; r < 5; r++) {
-                most.drives(f, r);
-            }
-        }
-        back(most, 20, 3);
     }
 
     private static void homingFewest() {

@@ -292,10 +292,11 @@ public final class HouseEdgesTest {
 
     private static void bareChangesNothing() {
         due.sentence("(As things are NOW; nothing is changed.) BARE");
-        PlushFlocks x = due.told("r2 60;r1 9;d0 1;f0 4 0;n4;", 5);
+        PlushFlocks x = due.told("r2 60;r1 9;r1 1;d0 1;f0 4 0;n4;", 6);
         due.is("room(1, 5)", x.room(1, 5), 19);
         due.is("room(0, 5)", x.room(0, 5), 15);
-        due.is("carpet", x.now(3), 69);
+        due.is("room(2, 5)", x.room(2, 5), NONE);
+        due.is("carpet", x.now(3), 70);
         due.is("place", x.flock(0, 3), 0);
         due.is("eaten", x.flock(0, 4), 0);
         due.is("lambs", x.flock(0, 5), 0);

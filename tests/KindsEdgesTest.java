@@ -1,6 +1,9 @@
 import java.util.function.LongSupplier;
 
-/** Promises 22 to 24, 26 at their boundaries (rate, keep, again, trace): each method holds a sentence of the document. */
+/**
+ * Promises 22 to 24, 26 at their boundaries (rate, keep, again, trace):
+ * each method holds a sentence of the document.
+ */
 public final class KindsEdgesTest {
     private static final int BAD = PlushFlocks.BAD, STATE = PlushFlocks.STATE, NO = PlushFlocks.NO;
     private static final Due due = new Due("KindsEdgesTest");

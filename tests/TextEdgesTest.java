@@ -105,6 +105,18 @@ public final class TextEdgesTest {
         due.is("carpet", x.room(0, 1), 6);
         due.is("house() of nothing", x.house(), 0);
         due.is("rooms", x.count(0), 0);
+        endsTooEarlyBehind(ROOM + "f0 99 0;", ROOM + "f0 9");
+        endsTooEarlyBehind("r1 05;", "r1 0");
+        endsTooEarlyBehind("n100;", "n10");
+        endsTooEarlyBehind(ROOM + ROOM, ROOM + "r");
+    }
+
+    private static void endsTooEarlyBehind(String cleared, String typed) {
+        PlushFlocks x = new PlushFlocks();
+        due.type(x, cleared);
+        x.clear();
+        due.type(x, typed);
+        due.is("house() of '" + typed + "'", x.house(), -10 - typed.length());
     }
 
     private static void fullTextIsReadToItsEnd() {
@@ -138,6 +150,9 @@ public final class TextEdgesTest {
             due.is("rooms", x.count(0), 0);
             due.is("flocks", x.count(1), 0);
             due.is("full", x.count(2), 20);
+            for (int what = 0; what <= 5; what++) {
+                due.is("now(" + what + ")", x.now(what), 0);
+            }
         }
     }
 

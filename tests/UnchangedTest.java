@@ -4,28 +4,59 @@ import java.util.function.Consumer;
 import java.util.function.ToIntFunction;
 
 /**
- * "Refused, and nothing changes": of two objects with the same life one is asked for what it refuses;
- * all that can be seen of the two, then and behind undo(), again() and house(), must be the same.
+ * "Refused, and nothing changes" and "(As things are NOW; nothing is changed.)": of two objects with the same
+ * life one is asked; all that can be seen of the two, then and behind undo(), again() and house(), is the same.
  */
-public final class RefusedTest {
+public final class UnchangedTest {
     private static final int BAD = PlushFlocks.BAD, STATE = PlushFlocks.STATE, FULL = PlushFlocks.FULL;
     private static final int NO = PlushFlocks.NO;
-    private static final Due due = new Due("RefusedTest");
+    private static final Due due = new Due("UnchangedTest");
 
     public static void main(String[] args) {
-        due.sentence("Refused, and nothing changes");
-        text();
         asked();
+        textRefused();
+        askedRefused();
         drivesRefused();
-        dogs();
+        dogsRefused();
         undoRefused();
-        home();
-        grazed();
-        kindsAndImages();
+        homeRefused();
+        grazedRefused();
+        kindsRefused();
+        imagesRefused();
         due.end();
     }
 
-    private static void text() {
+    private static void asked() {
+        asks("room(0, 5), when it is NONE", x -> x.puts(0), x -> x.room(0, 5), PlushFlocks.NONE);
+        asks("room(0, 5)", x -> x.room(0, 5), 7);
+        asks("flock(0, 5)", x -> x.flock(0, 5), 1);
+        asks("now(1)", x -> x.now(1), 0);
+        asks("back(0)", x -> x.drives(0, 1), x -> x.back(0), 1);
+        asks("back(1)", x -> x.drives(0, 1), x -> x.back(1), 0);
+        asks("back(0), when it is NONE", UnchangedTest::lockOut, x -> x.back(0), PlushFlocks.NONE);
+        asks("homing()", PlushFlocks::homing, 0);
+        asks("homing(), when it is NONE", UnchangedTest::driveFar, PlushFlocks::homing, PlushFlocks.NONE);
+        asks("apart(-1)", x -> x.apart(-1), 2);
+        asks("apart(1)", x -> x.apart(1), 1);
+        asks("odds(5, 1, 0)", x -> x.odds(5, 1, 0), 3);
+        asks("can(0)", x -> x.can(0), 2);
+        asks("ask()", PlushFlocks::ask, 1);
+        asks("count(2)", x -> x.count(2), 3);
+        asks("trace()", x -> (int) x.trace(), 100001);
+    }
+
+    private static void lockOut(PlushFlocks x) {
+        x.drives(0, 1);
+        x.puts(0);
+    }
+
+    private static void driveFar(PlushFlocks x) {
+        x.calls(2);
+        x.drives(0, 1);
+        x.drives(0, 2);
+    }
+
+    private static void textRefused() {
         refuses("type(-1)", x -> x.type(-1), BAD);
         refuses("type(256)", x -> x.type(256), BAD);
         Consumer<PlushFlocks> fill = x -> due.type(x, " ".repeat(120 - x.count(4)));
@@ -36,7 +67,7 @@ public final class RefusedTest {
         refuses("house() of 120 letters", fill, PlushFlocks::house, -130);
     }
 
-    private static void asked() {
+    private static void askedRefused() {
         refuses("room(-1, 0)", x -> x.room(-1, 0), BAD);
         refuses("room(3, 5)", x -> x.room(3, 5), BAD);
         refuses("room(0, 6)", x -> x.room(0, 6), BAD);
@@ -57,7 +88,7 @@ public final class RefusedTest {
         refuses("drives() into a full room", x -> x.drives(1, 1), x -> x.drives(0, 1), STATE);
     }
 
-    private static void dogs() {
+    private static void dogsRefused() {
         refuses("puts(-1)", x -> x.puts(-1), BAD);
         refuses("puts(3)", x -> x.puts(3), BAD);
         refuses("puts() where one is", x -> x.puts(2), STATE);
@@ -76,7 +107,7 @@ public final class RefusedTest {
         refuses("undo() behind again()", x -> x.again(0), PlushFlocks::undo, STATE);
     }
 
-    private static void home() {
+    private static void homeRefused() {
         refuses("back(-1)", x -> x.back(-1), BAD);
         refuses("back(2)", x -> x.back(2), BAD);
         refuses("apart(-2)", x -> x.apart(-2), BAD);
@@ -86,7 +117,7 @@ public final class RefusedTest {
         refuses("odds(0, 0, 2)", x -> x.odds(0, 0, 2), BAD);
     }
 
-    private static void grazed() {
+    private static void grazedRefused() {
         refuses("tells(0, 0)", x -> x.tells(0, 0), BAD);
         refuses("tells(4, 0)", x -> x.tells(4, 0), BAD);
         refuses("tells(1, -1)", x -> x.tells(1, -1), BAD);
@@ -102,11 +133,14 @@ public final class RefusedTest {
         refuses("can(3)", x -> x.can(3), BAD);
     }
 
-    private static void kindsAndImages() {
+    private static void kindsRefused() {
         refuses("rate(-1, 0)", x -> x.rate(-1, 0), NO);
         refuses("rate(6, 0)", x -> x.rate(6, 0), NO);
         refuses("rate(5, 2)", x -> x.rate(5, 2), NO);
         refuses("rate(3, -1)", x -> x.rate(3, -1), NO);
+    }
+
+    private static void imagesRefused() {
         refuses("keep(-1)", x -> x.keep(-1), BAD);
         refuses("keep(2)", x -> x.keep(2), BAD);
         refuses("again(-1)", x -> x.again(-1), BAD);
@@ -128,17 +162,32 @@ public final class RefusedTest {
         return x;
     }
 
+    private static void asks(String call, ToIntFunction<PlushFlocks> asked, int answer) {
+        asks(call, x -> { }, asked, answer);
+    }
+
+    private static void asks(String call, Consumer<PlushFlocks> ahead, ToIntFunction<PlushFlocks> asked, int answer) {
+        due.sentence("(As things are NOW; nothing is changed.) " + call);
+        changesNothing(call, ahead, asked, answer);
+    }
+
     private static void refuses(String call, ToIntFunction<PlushFlocks> refused, int answer) {
         refuses(call, x -> { }, refused, answer);
     }
 
     private static void refuses(String call, Consumer<PlushFlocks> ahead, ToIntFunction<PlushFlocks> refused,
             int answer) {
+        due.sentence("Refused, and nothing changes: " + call);
+        changesNothing(call, ahead, refused, answer);
+    }
+
+    private static void changesNothing(String call, Consumer<PlushFlocks> ahead, ToIntFunction<PlushFlocks> asked,
+            int answer) {
         PlushFlocks x = lived();
         PlushFlocks y = lived();
         ahead.accept(x);
         ahead.accept(y);
-        due.is(call, refused.applyAsInt(x), answer);
+        due.is(call, asked.applyAsInt(x), answer);
         same(call, x, y);
         for (int left = y.now(5); left > 0; left--) {
             same(call + ", undo()", x, y, PlushFlocks::undo);
@@ -146,7 +195,7 @@ public final class RefusedTest {
         due.is(call + ", undo() of none", x.undo(), y.undo());
         due.is(call + ", again(1)", x.again(1), y.again(1));
         same(call + ", again(0)", x, y, z -> z.again(0));
-        same(call + ", house()", x, y, RefusedTest::tellTheRest);
+        same(call + ", house()", x, y, UnchangedTest::tellTheRest);
     }
 
     private static int tellTheRest(PlushFlocks x) {
