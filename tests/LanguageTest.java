@@ -1,10 +1,11 @@
 import java.io.IOException;
+import java.lang.reflect.Constructor;
 import java.lang.reflect.Field;
 import java.lang.reflect.Method;
 import java.lang.reflect.Modifier;
 import java.nio.file.Files;
 import java.nio.file.Path;
-import java.util.Arrays;
+import java.util.ArrayList;
 import java.util.List;
 import java.util.TreeSet;
 import java.util.regex.Matcher;
@@ -28,7 +29,7 @@ public final class LanguageTest {
     public static void main(String[] args) throws IOException {
         String source = Files.readString(Path.of(args[0]));
         face();
-        insideClasses();
+        classes();
         words(source);
         methodLengths(source);
         System.out.println("LanguageTest: " + wrong + " faults");
@@ -58,14 +59,11 @@ public final class LanguageTest {
             }
         }
         hold(found.equals(new TreeSet<>(FACE)), "the face is " + found);
-        for (Class<?> inside : PlushFlocks.class.getDeclaredClasses()) {
-            for (Method method : inside.getDeclaredMethods()) {
-                hold(!names.contains(method.getName()), inside + " has a public one's name: " + method.getName());
+        for (Class<?> one : allClasses()) {
+            for (Method method : one.getDeclaredMethods()) {
+                hold(!Modifier.isPrivate(method.getModifiers()) || !names.contains(method.getName()),
+                        one + ": a private one has a public one's name: " + method.getName());
             }
-        }
-        for (Method method : PlushFlocks.class.getDeclaredMethods()) {
-            hold(!Modifier.isPrivate(method.getModifiers()) || !names.contains(method.getName()),
-                    "a private one has a public one's name: " + method.getName());
         }
         TreeSet<String> constants = new TreeSet<>();
         for (Field field : PlushFlocks.class.getDeclaredFields()) {
@@ -80,20 +78,39 @@ public final class LanguageTest {
         hold(PlushFlocks.class.getConstructors().length == 1, "one constructor");
     }
 
-    private static void insideClasses() {
-        Class<?>[] inside = PlushFlocks.class.getDeclaredClasses();
-        hold(inside.length <= 11, "twelve classes");
-        for (Class<?> one : inside) {
-            hold(Modifier.isStatic(one.getModifiers()) || one.isEnum(), one + " is static");
-            hold(one.getDeclaredFields().length <= 20, one + " has some twenty fields");
+    private static List<Class<?>> allClasses() {
+        List<Class<?>> all = new ArrayList<>(List.of(PlushFlocks.class));
+        all.addAll(List.of(PlushFlocks.class.getDeclaredClasses()));
+        return all;
+    }
+
+    private static void classes() {
+        List<Class<?>> all = allClasses();
+        hold(all.size() <= 12, "some twelve classes, not " + all.size());
+        for (Class<?> one : all) {
+            int modifiers = one.getModifiers();
+            hold(one == PlushFlocks.class || Modifier.isStatic(modifiers), one + " is static");
+            hold(one == PlushFlocks.class || !Modifier.isPublic(modifiers) && !Modifier.isProtected(modifiers),
+                    one + " is private or package-visible");
+            fields(one);
+            for (Method method : one.getDeclaredMethods()) {
+                hold(method.getParameterCount() <= 7, method + " takes at most seven parameters");
+            }
+            int hidden = one.isEnum() ? 2 : 0;
+            for (Constructor<?> made : one.getDeclaredConstructors()) {
+                hold(made.getParameterCount() - hidden <= 7, made + " takes at most seven parameters");
+            }
         }
-        for (Field field : PlushFlocks.class.getDeclaredFields()) {
-            hold(!Modifier.isStatic(field.getModifiers()) || Modifier.isFinal(field.getModifiers()),
-                    field.getName() + " is final");
+    }
+
+    private static void fields(Class<?> one) {
+        int own = 0;
+        for (Field field : one.getDeclaredFields()) {
+            boolean shared = Modifier.isStatic(field.getModifiers());
+            own += shared ? 0 : 1;
+            hold(!shared || Modifier.isFinal(field.getModifiers()), field + " is final");
         }
-        long fields = Arrays.stream(PlushFlocks.class.getDeclaredFields())
-                .filter(field -> !Modifier.isStatic(field.getModifiers())).count();
-        hold(fields <= 20, "some twenty fields");
+        hold(own <= 20, one + " has some twenty fields beside its constants, not " + own);
     }
 
     private static void words(String source) {
@@ -111,7 +128,7 @@ public final class LanguageTest {
         while (called.find()) {
             hold(mayBeCalled(called.group(1), called.group(2)), "call of " + called.group());
         }
-        for (char sign : source.toCharArray()) {
+        for (char sign : code.toCharArray()) {
             hold(sign < 128, "signs are 1 to 127");
         }
     }
